@@ -10,7 +10,6 @@ public final class OnceNamed {
     private static final int VARIABLES = 6;
     private static final int KINDS = 8;
     private static final int LARGEST_NUMBER = 999;
-    private static final int FORMS = 3;
 
     /** No block, no name, no variable: whatever is asked for, there is none. */
     private static final int NONE = -1;
@@ -293,7 +292,7 @@ public final class OnceNamed {
     }
 
     private void requireRunnable(int form) {
-        if (form < 0 || form >= FORMS) {
+        if (form < Runner.PROGRAM || form > Runner.BY_COPIES) {
             throw new IllegalArgumentException("no such form");
         }
         if (form != Runner.PROGRAM) {
@@ -459,7 +458,7 @@ public final class OnceNamed {
             reached = reachedWithout(program, NONE);
             findForerunners(program);
             for (int b = 0; b < blocks; b++) {
-                below[b] = has(reached, b) ? reached & ~reachedWithout(program, b) : 0;
+                below[b] = reached & ~reachedWithout(program, b);
             }
             for (int b = 0; b < blocks; b++) {
                 parents[b] = has(reached, b) ? nearestAbove(b) : NONE;
@@ -1026,6 +1025,7 @@ public final class OnceNamed {
     private static final class Runner {
         static final int PROGRAM = 0;
         static final int AT_ONCE = 1;
+        static final int BY_COPIES = 2;
 
         private static final int MOST_ARRIVALS = 100;
 
@@ -1051,7 +1051,11 @@ public final class OnceNamed {
             int from = program.blockCount();
             int at = 0;
             for (int arrivals = 0; arrivals < MOST_ARRIVALS; arrivals++) {
-                setMeetings(at, from);
+                if (way == AT_ONCE) {
+                    setAtOnce(at, from);
+                } else if (way == BY_COPIES) {
+                    setByCopies(at, from);
+                }
                 doSteps(at, talk);
                 if (talk.outcome() != Talk.FINE) {
                     return;
@@ -1069,17 +1073,6 @@ public final class OnceNamed {
             Arrays.fill(values, 0);
             for (int v = 0; v < VARIABLES; v++) {
                 values[form.entryName(v)] = program.startOf(v);
-            }
-        }
-
-        private void setMeetings(int b, int from) {
-            if (way == PROGRAM) {
-                return;
-            }
-            if (way == AT_ONCE) {
-                setAtOnce(b, from);
-            } else {
-                setByCopies(b, from);
             }
         }
 

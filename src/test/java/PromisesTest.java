@@ -67,6 +67,7 @@ public final class PromisesTest {
         said();
         same();
         sameFails();
+        exampleOfTheReadme();
         System.out.println(made + " answers looked at, " + wrong + " wrong");
         if (wrong != 0) {
             System.exit(1);
@@ -787,11 +788,13 @@ public final class PromisesTest {
         x.step(0, COPY, 0, 1, 0);
         x.step(0, COPY, 1, 0, 0);
         x.step(0, SAY, 0, 1, 0);
+        x.step(0, SUM, 5, 5, 1);
         x.build();
         x.alter(0, 0, 0, 200);
         x.alter(0, 2, 0, 1);
         due("copies", 2, () -> x.propagate());
-        due("use", 200, () -> x.use(0, 2, 0));
+        due("use for w", 200, () -> x.use(0, 2, 0));
+        due("use for x", 200, () -> x.use(0, 3, 1));
         due("run", 1, () -> x.run(1));
         due("said", 3, () -> x.said(0));
         due("not the same", 0, () -> bit(x.same(1)));
@@ -974,12 +977,19 @@ public final class PromisesTest {
             due("run " + f, 1, () -> x.run(f));
             due("said", 5, () -> x.said(0));
         }
+        x.step(3, PUT, 1, 9, 0);
+        x.step(3, SAY, 0, 1, 0);
+        thrown("run 1", UNSUPPORTED, () -> x.run(1));
+        thrown("run 2", UNSUPPORTED, () -> x.run(2));
+        due("said stays", 5, () -> x.said(0));
+        thrown("no more is said", INDEX, () -> x.said(1));
+        x.build();
         thrown("run -1", ILLEGAL, () -> x.run(-1));
         thrown("run 3", ILLEGAL, () -> x.run(3));
         due("said stays", 5, () -> x.said(0));
-        x.start(0, 0);
-        thrown("run 1", UNSUPPORTED, () -> x.run(1));
-        due("said stays", 5, () -> x.said(0));
+        thrown("no more is said", INDEX, () -> x.said(1));
+        due("run", 2, () -> x.run(2));
+        due("said anew", 9, () -> x.said(1));
     }
 
     private static void runAlteredForm() {
@@ -1004,6 +1014,13 @@ public final class PromisesTest {
             due("run " + f, 1, () -> x.run(f));
             due("by the altered fork", 6, () -> x.said(0));
         }
+        x.alter(3, 0, 0, 101);
+        x.alter(0, -1, 0, 1);
+        due("run", 1, () -> x.run(1));
+        due("set on this way", 5, () -> x.said(0));
+        x.alter(0, -1, 0, 200);
+        due("run", 1, () -> x.run(1));
+        due("not set in this run, but in the one before", 0, () -> x.said(0));
         due("the program itself", 1, () -> x.run(0));
         due("goes its way", 5, () -> x.said(0));
     }
@@ -1090,6 +1107,21 @@ public final class PromisesTest {
         due("says less", 0, () -> bit(y.same(1)));
         y.alter(1, -1, 0, 101);
         due("says more", 0, () -> bit(y.same(2)));
+
+        OnceNamed z = new OnceNamed(3);
+        z.step(0, SAY, 0, 0, 0);
+        z.step(0, SAY, 0, 0, 0);
+        z.fork(0, 0, 1, 2);
+        z.step(1, SAY, 0, 0, 0);
+        z.start(1, 1);
+        z.build();
+        z.alter(0, -1, 0, 100);
+        due("says one more and ends as well", 0, () -> bit(z.same(1)));
+        z.start(0, 0);
+        z.fork(0, 1, 1, 2);
+        z.build();
+        z.alter(0, -1, 0, 200);
+        due("says one less and ends as well", 0, () -> bit(z.same(2)));
     }
 
     private static void sameFails() {
@@ -1116,5 +1148,25 @@ public final class PromisesTest {
         z.alter(0, 0, 1, 0);
         due("one by zero, one by limit", 0, () -> bit(z.same(2)));
         thrown("nothing was said", INDEX, () -> z.said(0));
+    }
+
+    private static void exampleOfTheReadme() {
+        OnceNamed program = new OnceNamed(3);
+        program.start(0, 3);
+        program.step(0, 0, 1, 1, 0);
+        program.go(0, 1);
+        program.step(1, 7, 0, 0, 0);
+        program.step(1, 3, 0, 0, 1);
+        program.fork(1, 0, 1, 2);
+        due("parent", 1, () -> program.parent(2));
+        due("frontier", 1, () -> bit(program.frontier(1, 1)));
+        due("names", 9, () -> program.build());
+        due("meeting", 1, () -> program.meeting(1, 0));
+        due("source", 0, () -> program.source(1, 0, 0));
+        due("source", 2, () -> program.source(1, 0, 1));
+        due("valid", 1, () -> bit(program.valid()));
+        due("run", 3, () -> program.run(2));
+        due("said", 3, () -> program.said(0));
+        due("same", 1, () -> bit(program.same(2)));
     }
 }
