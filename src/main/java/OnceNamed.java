@@ -498,7 +498,7 @@ public final class OnceNamed {
             }
         }
 
-        /** Those that strictly dominate a block lie in a chain: the nearest has the fewest below. */
+        /** Those that strictly dominate a block are a chain: the nearest has the fewest below. */
         private int nearestAbove(int c) {
             int nearest = blocks;
             int fewest = blocks + 1;
@@ -650,7 +650,7 @@ public final class OnceNamed {
             }
         }
 
-        /** The names come later, in the order of the blocks: until then a mark holds their place. */
+        /** The names come later, in the order of the blocks; until then a mark holds their room. */
         private void markMeetings(int v) {
             int setting = 0;
             for (int i = 0; i < graph.reachedCount(); i++) {
@@ -921,7 +921,7 @@ public final class OnceNamed {
             }
         }
 
-        /** A move whose target no other move waits to read; NONE when all that is left are rings. */
+        /** A move whose target no other move waits to read; NONE when only rings are left. */
         private int freeMove() {
             for (int i = 0; i < pending; i++) {
                 if (!isAwaited(pendingTo[i])) {

@@ -19,6 +19,7 @@ public final class CopiesTest {
         for (int meetings = 1; meetings <= 4; meetings++) {
             cases += allOf(meetings);
         }
+        cases += allOfSix();
         sixInThreeRings();
         System.out.println(cases + " cases, " + wrong + " wrong");
         if (wrong != 0) {
@@ -93,7 +94,7 @@ public final class CopiesTest {
         return text.toString();
     }
 
-    /** Places are the meetings, a name of the entry, and one place besides; the state is who holds what. */
+    /** Places are the meetings, a name of the entry, and one besides; a state is who holds what. */
     private static int fewest(int[] sources) {
         int meetings = sources.length;
         int places = meetings + 2;
@@ -136,7 +137,8 @@ public final class CopiesTest {
         return Arrays.stream(row).boxed().toList();
     }
 
-    private static void sixInThreeRings() {
+    /** Block 0 says all six variables again and again; they meet in it, as 1 sets them. */
+    private static OnceNamed sixLoop() {
         OnceNamed x = new OnceNamed(2);
         for (int v = 0; v < 6; v++) {
             x.start(v, 10 + v);
@@ -146,6 +148,82 @@ public final class CopiesTest {
         x.go(0, 1);
         x.go(1, 0);
         x.build();
+        return x;
+    }
+
+    /** All cases of six meetings, by one search; a number in base 8 tells who holds what. */
+    private static int allOfSix() {
+        byte[] far = farFromFirst();
+        int cases = 7 * 7 * 7 * 7 * 7 * 7;
+        OnceNamed x = null;
+        for (int c = 0; c < cases; c++) {
+            // A case makes at most 14 calls, and an object is for 512.
+            if (c % 20 == 0) {
+                x = sixLoop();
+            }
+            int[] sources = new int[6];
+            int target = 0;
+            int rest = c;
+            for (int v = 0; v < 6; v++) {
+                sources[v] = rest % 7;
+                target |= sources[v] << 3 * v;
+                rest /= 7;
+                x.turn(0, v, 1, sources[v] == 6 ? 500 : x.meeting(0, sources[v]));
+            }
+            if (x.copies(0, 1) != far[target]) {
+                tell(Arrays.toString(sources) + " answered " + x.copies(0, 1)
+                        + ", due " + far[target]);
+            }
+        }
+        return cases;
+    }
+
+    /**
+     * The fewest copies to each state of the six meetings, whatever the place besides holds. Who
+     * holds it: 0 to 5 a meeting's old value, 6 the entry's, 7 that of the place besides.
+     */
+    private static byte[] farFromFirst() {
+        byte[] far = new byte[1 << 21];
+        Arrays.fill(far, (byte) -1);
+        int[] row = new int[1 << 21];
+        int first = 0;
+        for (int place = 0; place < 6; place++) {
+            first |= place << 3 * place;
+        }
+        first |= 7 << 18;
+        far[first] = 0;
+        row[0] = first;
+        int size = 1;
+        for (int i = 0; i < size; i++) {
+            for (int to = 0; to < 7; to++) {
+                for (int from = 0; from < 8; from++) {
+                    int value = from == 7 ? 6 : row[i] >> 3 * from & 7;
+                    int next = row[i] & ~(7 << 3 * to) | value << 3 * to;
+                    if (far[next] < 0) {
+                        far[next] = (byte) (far[row[i]] + 1);
+                        row[size] = next;
+                        size++;
+                    }
+                }
+            }
+        }
+        return leastOverBesides(far);
+    }
+
+    private static byte[] leastOverBesides(byte[] far) {
+        byte[] least = new byte[1 << 18];
+        Arrays.fill(least, Byte.MAX_VALUE);
+        for (int state = 0; state < far.length; state++) {
+            int meetings = state & (1 << 18) - 1;
+            if (far[state] >= 0 && far[state] < least[meetings]) {
+                least[meetings] = far[state];
+            }
+        }
+        return least;
+    }
+
+    private static void sixInThreeRings() {
+        OnceNamed x = sixLoop();
         for (int v = 0; v < 6; v++) {
             x.turn(0, v, 1, x.meeting(0, v ^ 1));
         }

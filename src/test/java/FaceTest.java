@@ -12,7 +12,7 @@ import java.util.TreeSet;
 import java.util.regex.Matcher;
 import java.util.regex.Pattern;
 
-/** The class has the document's face and nothing besides, and keeps to rules that can be read off. */
+/** The class has the document's face and nothing besides, and keeps to rules easily read off. */
 public final class FaceTest {
     private static final Path SOURCE = Path.of("src/main/java/OnceNamed.java");
     private static final Path DOCUMENT = Path.of("../shared/DOC.md");

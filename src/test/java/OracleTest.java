@@ -256,7 +256,7 @@ public final class OracleTest {
         }
     }
 
-    /** Where a use stands: in step k of a block, at its end (k END), or in a meeting (k MEETING). */
+    /** Where a use stands: in step k of a block, at its end (END), or in a meeting (MEETING). */
     private record Use(int block, int k, int which, int from) { }
 
     private record Home(int block, int k) { }
@@ -291,7 +291,7 @@ public final class OracleTest {
         }
 
         List<Integer> names() {
-            return homes == null ? new ArrayList<>() : new ArrayList<>(new TreeSet<>(homes.keySet()));
+            return new ArrayList<>(homes == null ? new TreeSet<>() : new TreeSet<>(homes.keySet()));
         }
 
         private boolean block(int b) {

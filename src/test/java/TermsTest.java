@@ -1180,7 +1180,7 @@ public final class TermsTest extends Sentences {
         allFail("without end", STATE, y);
     }
 
-    /** Block 0 says variable 0 twice, as often as tells; then 1 says something if it is asked to. */
+    /** Block 0 says variable 0 twice, as often as tells; then 1 says as much as is asked. */
     private static OnceNamed saying(int rounds, int more) {
         OnceNamed x = new OnceNamed(2);
         x.start(0, rounds);
