@@ -28,6 +28,7 @@ public final class EdgesTest extends Sentences {
         run();
         said();
         same();
+        sectionsAre("Promise \\d.*");
         end();
     }
 

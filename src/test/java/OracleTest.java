@@ -142,8 +142,17 @@ public final class OracleTest {
     }
 
     private static int near(Random r, int bound) {
-        return r.nextInt(60) == 0 ? r.nextInt(bound + 4) - 2 : r.nextInt(bound);
+        if (r.nextInt(60) != 0) {
+            return r.nextInt(bound);
+        }
+        return r.nextInt(4) == 0 ? FAR[r.nextInt(FAR.length)] : r.nextInt(bound + 4) - 2;
     }
+
+    /** Some of these would come to a right number if they were cut to fewer bits or multiplied. */
+    private static final int[] FAR = {
+        Integer.MAX_VALUE, Integer.MIN_VALUE, Integer.MIN_VALUE + 1, 32, 256, 1 << 16, 1 << 31 | 1,
+        -6, -32, -256, 715827882, 715827883, 1431655766, -1431655765
+    };
 
     private static int edge(Random r) {
         int[] edges = {999, -999, 1000, -1000, Integer.MAX_VALUE, Integer.MIN_VALUE};

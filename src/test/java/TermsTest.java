@@ -1,8 +1,12 @@
+import java.lang.reflect.Method;
 import java.util.Arrays;
 import java.util.Set;
 import java.util.TreeSet;
 
-/** The document's terms, each sentence at the last value that is in order and the first beyond. */
+/**
+ * The document's terms and what stands around its promises, each sentence at the last value that
+ * is in order and the first beyond.
+ */
 public final class TermsTest extends Sentences {
     /** A call with one argument left open. */
     private interface At {
@@ -27,6 +31,8 @@ public final class TermsTest extends Sentences {
         validity();
         running();
         throwing();
+        notPromised();
+        sectionsAre("(?!Promise \\d|The public face).*");
         end();
     }
 
@@ -612,6 +618,28 @@ public final class TermsTest extends Sentences {
 
     // What it is
 
+    private static void notPromised() {
+        section("Not promised");
+        sentence("How the state is held inside the object is free, as are the speed of each call, "
+                + "the text of toString and the behaviour of equals and hashCode.", () -> {
+                    for (Method m : OnceNamed.class.getDeclaredMethods()) {
+                        boolean ofObject = Set.of("toString", "equals", "hashCode")
+                                .contains(m.getName());
+                        due(m.getName() + " is one of them", false, ofObject);
+                    }
+                });
+        sentence("Use of one object from several threads at once is not promised to be safe.",
+                TermsTest::sideBySide);
+        sentence("Nothing is promised beyond the answers and state changes described above, and "
+                + "nothing about an object after its 512th call.", () -> {
+                    OnceNamed x = everywhere(12);
+                    for (int call = 12 * 4; call < 512; call++) {
+                        x.build();
+                    }
+                    fine("a later call comes to an end", () -> x.build());
+                });
+    }
+
     private static void wholeWay() {
         OnceNamed x = swap(2);
         due("dominates", true, x.dominates(1, 2));
@@ -631,6 +659,35 @@ public final class TermsTest extends Sentences {
             x.build();
         }
         due("call 512", 6 + 3 * 12 + 3 * 12, () -> x.build());
+    }
+
+    /** One object in one thread, but another one may be at work there or in a second thread. */
+    private static void sideBySide() {
+        OnceNamed x = swap(2);
+        OnceNamed y = swap(3);
+        due("propagated", 3, () -> x.propagate());
+        due("the other one's copies stay", 2, () -> y.sets(2, 1));
+        due("run", 4, () -> x.run(2));
+        due("the other one is run", 6, () -> y.run(1));
+        saidIs("one", x, 7, 8, 8, 7);
+        saidIs("the other one", y, 7, 8, 8, 7, 7, 8);
+        Thread second = new Thread(() -> changeOften(y));
+        second.start();
+        for (int i = 0; i < 50; i++) {
+            says("while the other one changes", x, 2, 7, 8, 8, 7);
+        }
+        try {
+            second.join();
+        } catch (InterruptedException e) {
+            throw new IllegalStateException("the second thread did not end", e);
+        }
+    }
+
+    private static void changeOften(OnceNamed y) {
+        for (int i = 0; i < 200; i++) {
+            y.start(0, i);
+            y.build();
+        }
     }
 
     // Programs

@@ -3,7 +3,9 @@ import java.nio.file.Files;
 import java.nio.file.Path;
 import java.util.ArrayList;
 import java.util.Arrays;
+import java.util.HashSet;
 import java.util.List;
+import java.util.Set;
 
 /**
  * The document, looked at sentence by sentence: each is quoted and has a test of its own, and what
@@ -43,6 +45,7 @@ abstract class Sentences {
 
     private static final Path DOCUMENT = Path.of("../shared/DOC.md");
 
+    private static final Set<String> headings = new HashSet<>();
     private static String heading = "";
     private static String text = "";
     private static boolean[] quoted = {};
@@ -55,6 +58,7 @@ abstract class Sentences {
     static void section(String newHeading) {
         endSection();
         heading = newHeading;
+        headings.add(newHeading);
         text = sectionOf(newHeading);
         quoted = new boolean[text.length()];
     }
@@ -76,6 +80,16 @@ abstract class Sentences {
         }
         if (made == before) {
             tell("nothing was looked at");
+        }
+    }
+
+    /** All sections with such headings have been gone through. */
+    static void sectionsAre(String pattern) {
+        for (String line : documentLines()) {
+            boolean wanted = line.startsWith("## ") && line.substring(3).matches(pattern);
+            if (wanted && !headings.contains(line.substring(3))) {
+                tell("the section was left out: " + line);
+            }
         }
     }
 
