@@ -57,7 +57,7 @@ public final class OnceNamed {
     public void go(int b, int to) throws IllegalArgumentException {
         requireBlock(b);
         requireBlock(to);
-        changeEnd(b, NONE, to, to);
+        giveEnd(b, NONE, to, to);
     }
 
     public void fork(int b, int v, int yes, int no) throws IllegalArgumentException {
@@ -65,12 +65,12 @@ public final class OnceNamed {
         requireVariable(v);
         requireBlock(yes);
         requireBlock(no);
-        changeEnd(b, v, yes, no);
+        giveEnd(b, v, yes, no);
     }
 
     public void stop(int b) throws IllegalArgumentException {
         requireBlock(b);
-        changeEnd(b, NONE, NONE, NONE);
+        giveEnd(b, NONE, NONE, NONE);
     }
 
     public void start(int v, int value) throws IllegalArgumentException {
@@ -204,7 +204,7 @@ public final class OnceNamed {
         return talkOfProgram.isLike(talkOfForm);
     }
 
-    private void changeEnd(int b, int variable, int yes, int no) {
+    private void giveEnd(int b, int variable, int yes, int no) {
         program.changeEnd(b, variable, yes, no);
         graph.survey(program);
         formStands = false;

@@ -77,7 +77,10 @@ public final class StormTest {
         if (choice == 1) {
             return FAR[random.nextInt(FAR.length)];
         }
-        return choice == 2 ? 100 * random.nextInt(6) + random.nextInt(9) : random.nextInt(small) - 1;
+        if (choice == 2) {
+            return 100 * random.nextInt(6) + random.nextInt(9);
+        }
+        return random.nextInt(small) - 1;
     }
 
     private static void call(OnceNamed x, Method method, Object[] numbers)
